@@ -74,7 +74,7 @@ public final class GumHall {
     }
 
     public int rise(int k) {
-        return takenBack(Story.SITTING, k);
+        return story.takeBack(Story.SITTING, k);
     }
 
     public int move(int a, int b, int night) {
@@ -85,7 +85,7 @@ public final class GumHall {
     }
 
     public int unmove(int k) {
-        return takenBack(Story.MOVE, k);
+        return story.takeBack(Story.MOVE, k);
     }
 
     public int scrape(int place, int night) {
@@ -96,7 +96,7 @@ public final class GumHall {
     }
 
     public int unscrape(int k) {
-        return takenBack(Story.SCRAPE, k);
+        return story.takeBack(Story.SCRAPE, k);
     }
 
     public int layers(int place, int night) {
@@ -186,7 +186,7 @@ public final class GumHall {
     }
 
     public int back(int k) {
-        return takenBack(Story.READING, k);
+        return story.takeBack(Story.READING, k);
     }
 
     public int sat(int place, int night) {
@@ -395,11 +395,6 @@ public final class GumHall {
     private int fails(int fault) {
         latestFault = fault;
         return -10 - fault;
-    }
-
-    private int takenBack(int kind, int k) {
-        if (k < 0 || k > story.count(kind)) return OUTSIDE;
-        return story.takeBack(kind, k);
     }
 
     // ---- reading a text
@@ -627,7 +622,7 @@ public final class GumHall {
             return kindIn(slot) < kindIn(other);
         }
 
-        /** Takes back the last k of a kind: how many are left. */
+        /** Takes back the last k of a kind: how many are left; OUTSIDE: there are not so many. */
         int takeBack(int kind, int k) {
             if (kind < 0 || kind >= KINDS || k < 0 || k > counts[kind]) return OUTSIDE;
             int left = counts[kind] - k;
