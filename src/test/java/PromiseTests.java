@@ -1,21 +1,5 @@
 /** Each promise of the document, by answers worked out by hand: ordinary inputs, edges, wrong inputs. */
-public final class PromiseTests {
-    private static final int UNKNOWN = -1, OUTSIDE = -2, STATE = -3, FULL = -4, NONE = -9;
-    private static final int NULL = -11, CAST = -12, INDEX = -13, SIZE = -14;
-    private static final long LOST = Long.MIN_VALUE;
-    private static final int MIN = Integer.MIN_VALUE, MAX = Integer.MAX_VALUE;
-
-    private static int checked = 0;
-    private static int wrong = 0;
-    private static String promise = "";
-
-    private static void due(String call, long got, long want) {
-        checked++;
-        if (got == want) return;
-        wrong++;
-        System.out.println("promise " + promise + ": " + call + " answered " + got + ", due is " + want);
-    }
-
+public final class PromiseTests extends Checks {
     public static void main(String[] args) {
         constants();
         newObject();
@@ -54,48 +38,17 @@ public final class PromiseTests {
         as();
         fault();
         many();
-        System.out.println("PromiseTests: " + (checked - wrong) + " answers as due, " + wrong + " not");
-        if (wrong != 0) System.exit(1);
+        end("PromiseTests");
     }
 
-    // ---- helpers
-
-    private static void write(GumHall x, int k, int lane, int... cells) {
-        x.sheet(k, lane, cells.length);
-        for (int i = 0; i < cells.length; i++) x.put(k, i, cells[i]);
-    }
-
-    private static int text(GumHall x, String text) {
-        int[] codes = new int[text.length()];
-        for (int i = 0; i < codes.length; i++) codes[i] = text.charAt(i);
-        write(x, 3, 2, codes);
-        return x.hall(3, 2, 0, codes.length);
-    }
-
-    private static GumHall hallOf(String text) {
-        GumHall x = new GumHall();
-        if (text(x, text) < 1) due("hall " + text, 0, 1);
-        return x;
-    }
-
-    /** Chair 2 at place 0 and chair 0 at place 2 from night 10 on; place 1 scraped on night 20. */
     private static GumHall busyHall() {
-        GumHall x = hallOf("h3;s1;f3;b2");
-        x.sit(0, 0, 1);
-        x.sit(1, 1, 1);
-        x.sit(2, 2, 10);
-        x.sit(0, 0, 10);
-        x.sit(1, 1, 20);
-        x.sit(2, 1, 30);
-        x.move(0, 2, 10);
-        x.scrape(1, 20);
-        return x;
+        return made(Checks::sitBusily);
     }
 
     // ---- promises
 
     private static void constants() {
-        promise = "constants";
+        about("constants");
         due("UNKNOWN", GumHall.UNKNOWN, UNKNOWN);
         due("OUTSIDE", GumHall.OUTSIDE, OUTSIDE);
         due("STATE", GumHall.STATE, STATE);
@@ -105,7 +58,7 @@ public final class PromiseTests {
     }
 
     private static void newObject() {
-        promise = "1";
+        about("promise 1");
         GumHall x = new GumHall();
         for (int what = 0; what < 6; what++) due("many " + what, x.many(what), 0);
         due("fault", x.fault(), 0);
@@ -140,7 +93,7 @@ public final class PromiseTests {
     }
 
     private static void hall() {
-        promise = "2";
+        about("promise 2");
         due("least", text(new GumHall(), "h2;s0"), 1);
         due("most", text(new GumHall(), "h6;s0;f1;b2;s3;f0"), 5);
         due("empty", text(new GumHall(), ""), -100);
@@ -168,7 +121,7 @@ public final class PromiseTests {
     }
 
     private static void hallFaults() {
-        promise = "2, faults";
+        about("promise 2, faults");
         GumHall x = new GumHall();
         write(x, 1, 1, 'h', '2', ';', 's', '0');
         due("sheet -1", x.hall(-1, 9, 0, -1), UNKNOWN);
@@ -192,7 +145,7 @@ public final class PromiseTests {
     }
 
     private static void hallMakesAllAnew() {
-        promise = "2, anew";
+        about("promise 2, anew");
         GumHall x = busyHall();
         x.reading(0, 0, 0, 9);
         x.tell(0);
@@ -210,7 +163,7 @@ public final class PromiseTests {
     }
 
     private static void ofPerson() {
-        promise = "3";
+        about("promise 3");
         GumHall x = hallOf("h2;s1;f3;b2");
         for (int p = 0; p < 3; p++) due("kind", x.ofPerson(p, 0), p);
         due("flavour", x.ofPerson(0, 1), 1);
@@ -223,7 +176,7 @@ public final class PromiseTests {
     }
 
     private static void gum() {
-        promise = "4";
+        about("promise 4");
         GumHall x = hallOf("h2;s3;f2;b3");
         due("sitter", x.gum(0, 0), 3);
         due("sitter late", x.gum(0, 39), 3);
@@ -241,7 +194,7 @@ public final class PromiseTests {
     }
 
     private static void sit() {
-        promise = "5";
+        about("promise 5");
         GumHall x = hallOf("h3;s0;f1;b2");
         due("first", x.sit(0, 0, 5), 0);
         due("second", x.sit(1, 1, 5), 1);
@@ -264,7 +217,7 @@ public final class PromiseTests {
     }
 
     private static void rise() {
-        promise = "6";
+        about("promise 6");
         GumHall x = busyHall();
         due("below 0", x.rise(-1), OUTSIDE);
         due("too many", x.rise(7), OUTSIDE);
@@ -280,7 +233,7 @@ public final class PromiseTests {
     }
 
     private static void move() {
-        promise = "7";
+        about("promise 7");
         GumHall x = hallOf("h3;s0");
         due("first", x.move(0, 1, 3), 0);
         due("second", x.move(2, 1, 2), 1);
@@ -300,7 +253,7 @@ public final class PromiseTests {
     }
 
     private static void unmove() {
-        promise = "8";
+        about("promise 8");
         GumHall x = hallOf("h3;s0");
         x.move(0, 1, 9);
         x.move(1, 2, 3);
@@ -316,7 +269,7 @@ public final class PromiseTests {
     }
 
     private static void scrape() {
-        promise = "9";
+        about("promise 9");
         GumHall x = hallOf("h3;s0;s1");
         x.sit(0, 0, 1);
         x.sit(0, 1, 2);
@@ -334,7 +287,7 @@ public final class PromiseTests {
     }
 
     private static void unscrape() {
-        promise = "10";
+        about("promise 10");
         GumHall x = busyHall();
         due("too many", x.unscrape(2), OUTSIDE);
         due("below 0", x.unscrape(-1), OUTSIDE);
@@ -347,7 +300,7 @@ public final class PromiseTests {
 
     private static void layersUnderChair() {
         GumHall x = busyHall();
-        promise = "11";
+        about("promise 11");
         due("place 0 early", x.layers(0, 0), 0);
         due("place 0 before the move", x.layers(0, 9), 1);
         due("place 0", x.layers(0, 39), 1);
@@ -358,7 +311,7 @@ public final class PromiseTests {
         due("no place", x.layers(3, 40), UNKNOWN);
         due("night 40", x.layers(0, 40), OUTSIDE);
         due("night -1", x.layers(0, -1), OUTSIDE);
-        promise = "12";
+        about("promise 12");
         due("oldest", x.under(2, 39, 0, 0), 1);
         due("oldest's sitting", x.under(2, 39, 0, 1), 0);
         due("last", x.under(2, 39, 1, 0), 7);
@@ -372,7 +325,7 @@ public final class PromiseTests {
         due("night 40", x.under(0, 40, 0, 0), OUTSIDE);
         due("what 2", x.under(0, 0, 0, 2), OUTSIDE);
         due("what -1, none there", x.under(0, 0, 0, -1), OUTSIDE);
-        promise = "13";
+        about("promise 13");
         due("before", x.chair(0, 9), 0);
         due("on its night", x.chair(0, 10), 2);
         due("the other", x.chair(2, 39), 0);
@@ -382,7 +335,7 @@ public final class PromiseTests {
     }
 
     private static void orderWithinANight() {
-        promise = "11 to 13, one night";
+        about("promise 11 to 13, one night");
         GumHall x = hallOf("h3;s1;s2");
         x.sit(0, 0, 4);
         x.move(0, 1, 5);
@@ -406,7 +359,7 @@ public final class PromiseTests {
     }
 
     private static void beside() {
-        promise = "14";
+        about("promise 14");
         GumHall x = hallOf("h4;s0;s1;s2");
         x.sit(0, 0, 1);
         x.sit(1, 1, 1);
@@ -425,7 +378,7 @@ public final class PromiseTests {
     }
 
     private static void habit() {
-        promise = "15";
+        about("promise 15");
         GumHall x = hallOf("h4;s0;s1;s2");
         x.sit(0, 3, 1);
         x.sit(0, 3, 2);
@@ -444,7 +397,7 @@ public final class PromiseTests {
     }
 
     private static void makers() {
-        promise = "16";
+        about("promise 16");
         GumHall x = hallOf("h2;s1;f0;b1;f1;s1");
         due("early", x.makers(1, 9), 1 + 8 + 16);
         due("later", x.makers(1, 10), 1 + 2 + 16);
@@ -458,7 +411,7 @@ public final class PromiseTests {
     }
 
     private static void judge() {
-        promise = "17";
+        about("promise 17");
         GumHall x = hallOf("h3;s0;s1;s2");
         x.sit(0, 0, 1);
         write(x, 0, 0, 0, 0, 1, 1, 1, 1, 1, 1, 1, 2, 1, 2, 1, 2, 1, 2, 2, 1, 0, 2, 1);
@@ -480,7 +433,7 @@ public final class PromiseTests {
     }
 
     private static void judgeRefusals() {
-        promise = "17, refusals";
+        about("promise 17, refusals");
         GumHall x = new GumHall();
         write(x, 0, 0, 0, 0, 1, 0, 1, 1, 9, 0, 0);
         due("sheet 4", x.judge(4, 3, 0, 21), UNKNOWN);
@@ -509,7 +462,7 @@ public final class PromiseTests {
     }
 
     private static void readingAndBack() {
-        promise = "18";
+        about("promise 18");
         GumHall x = hallOf("h2;s0");
         due("first", x.reading(0, 0, 0, 0), 0);
         due("most", x.reading(1, 39, 9, 7), 1);
@@ -525,7 +478,7 @@ public final class PromiseTests {
         for (int k = 3; k < 8; k++) due("more", x.reading(0, 0, 0, 9), k);
         due("full", x.reading(0, 0, 0, 9), FULL);
         due("outside ahead of full", x.reading(0, 0, 0, 8), OUTSIDE);
-        promise = "19";
+        about("promise 19");
         due("too many", x.back(9), OUTSIDE);
         due("below 0", x.back(-1), OUTSIDE);
         due("none", x.back(0), 8);
@@ -536,7 +489,7 @@ public final class PromiseTests {
     }
 
     private static void readingIsOfTheNightsEnd() {
-        promise = "18, the end of a night";
+        about("promise 18, the end of a night");
         GumHall x = hallOf("h2;s0;s1");
         x.sit(0, 0, 5);
         x.sit(0, 0, 6);
@@ -554,7 +507,7 @@ public final class PromiseTests {
     }
 
     private static void sat() {
-        promise = "20";
+        about("promise 20");
         GumHall x = hallOf("h3;s1;f0;b1;s1");
         due("no readings: all", x.sat(0, 0), 15);
         x.sit(0, 1, 12);
@@ -575,7 +528,7 @@ public final class PromiseTests {
     }
 
     private static void moved() {
-        promise = "21";
+        about("promise 21");
         GumHall x = hallOf("h4;s1;s2");
         due("no readings: the first pair", x.moved(0), 1);
         x.sit(0, 1, 3);
@@ -598,7 +551,7 @@ public final class PromiseTests {
     }
 
     private static void scraped() {
-        promise = "22";
+        about("promise 22");
         GumHall x = hallOf("h3;s1;s2");
         due("no readings: all", x.scraped(0), 7);
         x.sit(0, 0, 3);
@@ -618,7 +571,7 @@ public final class PromiseTests {
     }
 
     private static void never() {
-        promise = "23";
+        about("promise 23");
         GumHall x = hallOf("h3;s1;s2");
         due("no sittings", x.never(), 0);
         x.sit(0, 0, 3);
@@ -634,7 +587,7 @@ public final class PromiseTests {
     }
 
     private static void oneMoreWhereFull() {
-        promise = "20 to 23, full";
+        about("promise 20 to 23, full");
         GumHall x = hallOf("h2;s0;s1");
         for (int k = 0; k < 24; k++) x.sit(0, 0, k);
         for (int k = 0; k < 6; k++) x.move(0, 1, 38);
@@ -658,7 +611,7 @@ public final class PromiseTests {
     }
 
     private static void look() {
-        promise = "24";
+        about("promise 24");
         GumHall x = hallOf("h3;s1;s1;b2");
         due("a place of several", x.look(5, 39, 0), 0);
         due("others at other places", x.look(5, 39, 1), 6);
@@ -699,7 +652,7 @@ public final class PromiseTests {
     }
 
     private static void odds() {
-        promise = "25";
+        about("promise 25");
         GumHall x = hallOf("h2;s0;s1");
         due("no sitting", x.odds(0, 39, 0, 0), 1);
         due("no sitting", x.odds(0, 39, 0, 1), 1);
@@ -726,7 +679,7 @@ public final class PromiseTests {
     }
 
     private static void sheet() {
-        promise = "26";
+        about("promise 26");
         GumHall x = new GumHall();
         due("empty", x.sheet(0, 0, 0), 1);
         due("no cell", x.put(0, 0, 1), INDEX);
@@ -746,7 +699,7 @@ public final class PromiseTests {
     }
 
     private static void lose() {
-        promise = "27";
+        about("promise 27");
         GumHall x = new GumHall();
         due("nothing", x.lose(0), 0);
         x.sheet(0, 0, 0);
@@ -759,7 +712,7 @@ public final class PromiseTests {
     }
 
     private static void putAndCell() {
-        promise = "28";
+        about("promise 28");
         GumHall x = new GumHall();
         for (int lane = 0; lane < 3; lane++) x.sheet(lane, lane, 2);
         for (int lane = 0; lane < 3; lane++) due("put", x.put(lane, 1, 0x12348765), 1);
@@ -768,7 +721,7 @@ public final class PromiseTests {
         due("index -1", x.put(0, -1, 0), INDEX);
         due("index 2", x.put(0, 2, 0), INDEX);
         due("index far", x.put(0, MAX, 0), INDEX);
-        promise = "29";
+        about("promise 29");
         due("byte", x.cell(0, 1, 0), 0x65);
         due("short", x.cell(1, 1, 1), (short) 0x8765);
         due("int", x.cell(2, 1, 2), 0x12348765);
@@ -793,7 +746,7 @@ public final class PromiseTests {
     }
 
     private static void copy() {
-        promise = "30";
+        about("promise 30");
         GumHall x = new GumHall();
         write(x, 0, 1, 1, 2, 3, 4, 5);
         write(x, 1, 1, 9, 9, 9);
@@ -826,7 +779,7 @@ public final class PromiseTests {
 
     private static void tellGreetTrace() {
         GumHall x = hallOf("h2;s1;f3;b2");
-        promise = "31";
+        about("promise 31");
         due("sitter", x.tell(0), 1);
         due("trace", x.trace(), 1);
         due("fickle", x.tell(1), 103);
@@ -837,13 +790,13 @@ public final class PromiseTests {
         due("trace", x.trace(), trace);
         due("no person", x.tell(3), UNKNOWN);
         due("person -1", x.tell(-1), UNKNOWN);
-        promise = "32";
+        about("promise 32");
         due("sitter", x.greet(0), 0);
         due("fickle", x.greet(1), 1);
         due("biter", x.greet(2), 70);
         for (int body : new int[] {4, 4, 5}) trace = trace * 31 + body;
         due("no person", x.greet(3), UNKNOWN);
-        promise = "34";
+        about("promise 34");
         due("trace", x.trace(), trace);
         for (int k = 0; k < 50; k++) {
             x.tell(0);
@@ -853,7 +806,7 @@ public final class PromiseTests {
     }
 
     private static void as() {
-        promise = "33";
+        about("promise 33");
         GumHall x = hallOf("h2;s1;f3;b2");
         for (int p = 0; p < 3; p++) {
             for (int kind = 0; kind < 3; kind++) {
@@ -867,7 +820,7 @@ public final class PromiseTests {
     }
 
     private static void fault() {
-        promise = "35";
+        about("promise 35");
         GumHall x = hallOf("h2;s1");
         Runnable cast = () -> x.as(0, 1);
         cast.run();
@@ -896,7 +849,7 @@ public final class PromiseTests {
     }
 
     private static void many() {
-        promise = "36";
+        about("promise 36");
         GumHall x = busyHall();
         x.reading(0, 0, 0, 9);
         x.reading(0, 0, 0, 9);
