@@ -16,6 +16,7 @@ public final class CleanerEdges extends Checks {
         scrapedPlaces();
         scrapedIsTheFirstOfItsNight();
         neverEdges();
+        oneThingAlone();
         oneMoreWhereFull();
         lookRefusals();
         lookNoSitting();
@@ -273,9 +274,10 @@ public final class CleanerEdges extends Checks {
     // ---- promise 23
 
     private static void neverEdges() {
-        says("NEVER: SITTINGS without each of which (alone) it is so, as a set.");
+        says("NEVER, as a set. STATE: there is no HALL.");
         keeps("no hall", NO_HALL, x -> x.never(), STATE);
         keeps("new", NEW, x -> x.never(), STATE);
+        says("NEVER: SITTINGS without each of which (alone) it is so, as a set.");
         keeps("asking", BUSY, x -> x.never(), 2 + 4 + 8 + 16 + 32);
         due("no sittings", hallOf("h2;s0").never(), 0);
         GumHall none = hallOf("h2;s0");
@@ -299,6 +301,29 @@ public final class CleanerEdges extends Checks {
     }
 
     // ---- one more where there are as many as there may be
+
+    private static void oneThingAlone() {
+        says("if one thing alone were otherwise, all READINGS are so");
+        GumHall x = hallOf("h3;s0;s1");
+        x.sit(0, 0, 0);
+        due("no readings: all are so", x.sat(1, 0), 2);
+        due("no readings: all are so", x.moved(0), 1);
+        due("no readings: all are so", x.scraped(0), 7);
+        due("no readings: all are so", x.never(), 1);
+        x.reading(1, 39, 0, 1);
+        due("one reading", x.sat(1, 5), 2);
+        x.reading(0, 39, 0, 9);
+        due("two that one thing does not mend", x.sat(1, 5), 0);
+        due("two that one thing does not mend", x.never(), 0);
+        due("two that one thing does not mend", x.scraped(5), 0);
+        due("two that one thing does not mend", x.moved(5), NONE);
+        x.back(2);
+        x.reading(0, 39, 0, 0);
+        due("so as it is: what changes nothing", x.sat(1, 5), 3);
+        due("so as it is: what changes nothing", x.moved(5), 12);
+        due("so as it is: what changes nothing", x.scraped(5), 6);
+        due("so as it is: but not without it", x.never(), 0);
+    }
 
     private static void oneMoreWhereFull() {
         says("(one more may be also where there are as many as there may be)");
@@ -370,6 +395,9 @@ public final class CleanerEdges extends Checks {
         x.sit(0, 0, 39);
         group("all persons sat, places are free", x, 39, 39, 0, 0);
         group("one more may be the night before", x, 38, 39, 0, 5);
+        GumHall last = hallOf("h6;s0");
+        last.sit(0, 5, 39);
+        group("the one sat at the last place", last, 39, 39, 0, 0);
         GumHall y = hallOf("h2;s0;s1;s2");
         y.sit(0, 0, 0);
         y.sit(1, 1, 0);
@@ -430,6 +458,9 @@ public final class CleanerEdges extends Checks {
         group("the place where one sat tells nothing", y, 9, 39, 1, 1);
         y.move(0, 1, 10);
         group("but its chair was moved", y, 9, 39, 0, 1);
+        GumHall w = hallOf("h3;s0;s0;s0;s0");
+        w.sit(0, 0, 9);
+        group("who sat already counts in no group", w, 9, 39, 1, 3);
         // A gum more between others like it: two lengths, not two orders.
         GumHall z = hallOf("h2;s0;s0;s1");
         z.sit(0, 0, 3);

@@ -7,13 +7,14 @@ import java.lang.reflect.Modifier;
 import java.nio.file.Files;
 import java.nio.file.Path;
 import java.util.ArrayList;
+import java.util.Arrays;
 import java.util.List;
 import java.util.TreeSet;
 import java.util.regex.Matcher;
 import java.util.regex.Pattern;
 
 /** The face of the document, rules of LANGUAGE.md that can be seen in the source, and the room a run takes. */
-public final class LanguageTests {
+public final class LanguageTests extends Checks {
     private static final Path SOURCE = Path.of("src/main/java/GumHall.java");
     private static final Path DOCUMENT = Path.of("../shared/DOC.md");
     private static int wrong = 0;
@@ -30,6 +31,7 @@ public final class LanguageTests {
         wordsAreAllowed();
         methodsAreShort();
         roomIsSmall();
+        nothingThrows();
         System.out.println("LanguageTests: " + wrong + " rules broken");
         if (wrong != 0) System.exit(1);
     }
@@ -120,6 +122,33 @@ public final class LanguageTests {
             check(head.group(3).split(",").length <= 7, head.group(2) + " has more than seven parameters");
         }
         check(seen > 60, "read only " + seen + " methods");
+    }
+
+    /** Each call with all rows of near and far numbers, in each state. */
+    private static void nothingThrows() {
+        for (Method m : GumHall.class.getDeclaredMethods()) {
+            if (!Modifier.isPublic(m.getModifiers())) continue;
+            for (Build state : new Build[] {NEW, NO_HALL, BUSY, FULL_HALL}) sweep(m, state);
+        }
+    }
+
+    private static void sweep(Method m, Build state) {
+        int[] numbers = {MIN, MIN + 1, -1, 0, 1, 5, 39, 60, MAX - 2, MAX};
+        int params = m.getParameterCount();
+        int rows = (int) Math.pow(numbers.length, params);
+        GumHall x = null;
+        for (int row = 0; row < rows; row++) {
+            // An object is used for 512 calls at most.
+            if (row % 300 == 0) x = made(state);
+            Object[] arguments = new Object[params];
+            for (int i = 0, rest = row; i < params; i++, rest /= numbers.length) arguments[i] = numbers[rest % numbers.length];
+            try {
+                m.invoke(x, arguments);
+            } catch (ReflectiveOperationException e) {
+                check(false, m.getName() + Arrays.toString(arguments) + " threw " + e.getCause());
+                return;
+            }
+        }
     }
 
     /** All calls of many runs live in one room, so a call that only asks makes nothing. */
