@@ -422,6 +422,8 @@ public final class CleanerEdges extends Checks {
         group("scraped ahead of it", x, 21, 21, 0, 1);
         x.scrape(1, 21);
         group("all scraped", x, 20, 21, 0, 2);
+        x.unscrape(1);
+        group("the last scrape is taken back", x, 20, 21, 1, 1);
     }
 
     private static void lookLeastPlace() {
@@ -440,6 +442,8 @@ public final class CleanerEdges extends Checks {
         group("the one that tells was moved", x, 5, 39, 2, 5);
         group("ahead of the move", x, 5, 10, 5, 5);
         group("a move of that night comes ahead", x, 11, 39, 0, 5);
+        x.unmove(1);
+        group("the move is taken back", x, 5, 39, 5, 5);
     }
 
     private static void lookGroups() {
