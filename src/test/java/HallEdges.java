@@ -7,6 +7,8 @@ public final class HallEdges extends Checks {
         newObjectHasNoSheets();
         digitOfPlaces();
         oneToFivePersons();
+        letterAndFlavour();
+        codesByTheirNumbers();
         eachCodeAtEachPlace();
         firstOfSeveralFaults();
         textsThatEndTooSoon();
@@ -95,6 +97,34 @@ public final class HallEdges extends Checks {
             for (int p : beyond(0, n - 1)) due("person " + p, x.ofPerson(p, 0), UNKNOWN);
         }
         due("six", taken(FIVE + ";s0"), -117);
+    }
+
+    private static void letterAndFlavour() {
+        says("each: ; and a letter, a digit 0 .. 3 (FLAVOUR).");
+        for (int digit = 0; digit < 10; digit++) {
+            GumHall x = new GumHall();
+            boolean isTaken = digit <= 3;
+            due("flavour " + digit, text(x, "h2;s0;b" + digit), isTaken ? 2 : -107);
+            due("flavour " + digit, x.ofPerson(1, 1), isTaken ? digit : UNKNOWN);
+        }
+        due("the code ahead of 0", taken("h2;s/"), -104);
+        due("the code behind 9", taken("h2;s:"), -104);
+        due("no letter", taken("h2;0"), -103);
+        due("no digit", taken("h2;ss"), -104);
+        due("two digits", taken("h2;s12"), -105);
+        due("no ;", taken("h2;s1f2"), -105);
+    }
+
+    private static void codesByTheirNumbers() {
+        says("(Codes: h 104, s 115, f 102, b 98, ; 59, digits 48 .. 57.)");
+        GumHall x = new GumHall();
+        write(x, 0, BYTES, 104, 54, 59, 115, 48, 59, 102, 51, 59, 98, 49);
+        due("h6;s0;f3;b1", x.hall(0, BYTES, 0, 11), 3);
+        due("places", x.many(1), 6);
+        for (int p = 0; p < 3; p++) {
+            due("kind of " + p, x.ofPerson(p, 0), p);
+            due("flavour of " + p, x.ofPerson(p, 1), new int[] {0, 3, 1}[p]);
+        }
     }
 
     /** The codes with which a TEXT goes on at a place. */
