@@ -6,6 +6,7 @@ public final class SheetEdges extends Checks {
         oddsRefusals();
         oddsOfAllHeights();
         oddsOfNights();
+        oddsByAllSets();
         sheetRefusals();
         sheetLengths();
         sheetGetsANewRow();
@@ -85,6 +86,66 @@ public final class SheetEdges extends Checks {
         x.move(0, 1, 39);
         due("sat behind the move", x.odds(0, 39, 1, 1), 2);
         due("the chair that was scraped", x.odds(1, 39, 0, 1), 1);
+    }
+
+    private static void oddsByAllSets() {
+        says("ODDS: if each SITTING was, or was not, all such sets alike");
+        GumHall x = hallOf("h3;s0;f1");
+        // Each thing stands here in the order in which it counts: on a night a scrape, then a move, then sittings.
+        int[][] things = new int[30][];
+        int many = 0;
+        for (int night = 0; night < 12; night++) {
+            if (night == 2 || night == 5) things[many++] = scraped(x, night % 3, night);
+            if (night % 3 == 2) things[many++] = moved(x, night / 3 % 2, 2, night);
+            things[many++] = sat(x, 0, night % 7 == 6 ? 0 : 1, night);
+            things[many++] = sat(x, 1, 2, night);
+        }
+        due("things", many, 30);
+        due("sittings", x.many(2), 24);
+        int[][] sets = heightsOfAllSets(things);
+        for (int place = 0; place < 3; place++) {
+            for (int v = 0; v <= 24; v++) {
+                BigInteger upper = BigInteger.valueOf(sets[place][v]);
+                BigInteger lower = BigInteger.TWO.pow(24);
+                BigInteger common = upper.gcd(lower);
+                due("upper of " + v + " at " + place, x.odds(place, 39, v, 0), upper.divide(common).longValueExact());
+                due("lower of " + v + " at " + place, x.odds(place, 39, v, 1), lower.divide(common).longValueExact());
+            }
+        }
+    }
+
+    private static int[] scraped(GumHall x, int place, int night) {
+        x.scrape(place, night);
+        return new int[] {place};
+    }
+
+    private static int[] moved(GumHall x, int a, int b, int night) {
+        x.move(a, b, night);
+        return new int[] {a, b};
+    }
+
+    private static int[] sat(GumHall x, int p, int place, int night) {
+        return new int[] {place, p, x.sit(p, place, night)};
+    }
+
+    /** Of three places: how many of all sets of 24 sittings leave so many layers there, played one by one. */
+    private static int[][] heightsOfAllSets(int[][] things) {
+        int[][] sets = new int[3][25];
+        int[] heights = new int[3];
+        for (int set = 0; set < 1 << 24; set++) {
+            heights[0] = heights[1] = heights[2] = 0;
+            for (int[] thing : things) {
+                if (thing.length == 3) heights[thing[0]] += set >> thing[2] & 1;
+                if (thing.length == 1) heights[thing[0]] = 0;
+                if (thing.length == 2) {
+                    int kept = heights[thing[0]];
+                    heights[thing[0]] = heights[thing[1]];
+                    heights[thing[1]] = kept;
+                }
+            }
+            for (int place = 0; place < 3; place++) sets[place][heights[place]]++;
+        }
+        return sets;
     }
 
     // ---- promises 26 and 27
